@@ -1,0 +1,38 @@
+import java.util.function.Supplier;
+
+/** What a test expects of calls. Every failure is printed; {@link #end()} ends the test. */
+final class Expect {
+    private static int checked = 0;
+    private static int wrong = 0;
+
+    private Expect() {
+    }
+
+    static void equal(String call, Object due, Object got) {
+        checked++;
+        if (!due.equals(got)) {
+            fail(call + " answered " + got + ", due is " + due);
+        }
+    }
+
+    static void raises(String call, Class<? extends RuntimeException> due, Supplier<Object> body) {
+        checked++;
+        try {
+            fail(call + " answered " + body.get() + ", due is " + due.getSimpleName());
+        } catch (RuntimeException e) {
+            if (e.getClass() != due) {
+                fail(call + " threw " + e.getClass().getSimpleName() + ", due is " + due.getSimpleName());
+            }
+        }
+    }
+
+    static void fail(String text) {
+        wrong++;
+        System.out.println("  " + text);
+    }
+
+    static void end() {
+        System.out.println("  " + checked + " checks, " + wrong + " wrong");
+        System.exit(wrong == 0 && checked > 0 ? 0 : 1);
+    }
+}
