@@ -1,0 +1,125 @@
+import java.lang.reflect.Field;
+import java.util.List;
+
+/**
+ * Promise 42: isSound. No calls make a desk unsound, so these tests reach into it, spoil one thing
+ * at a time, and look whether isSound() sees it.
+ */
+public final class SoundTest {
+    public static void main(String[] args) throws ReflectiveOperationException {
+        soundAtFirst();
+        lostInduction();
+        membersOverlap();
+        machinesOverlap();
+        forgottenWaiting();
+        wrongBar();
+        wrongDebt();
+        wrongMinutes();
+        Expect.end();
+    }
+
+    /** Entry 0 and 1 are booked, 2 waits, 3 is done; there is a bar with a cut, a breakage and a payment. */
+    private static Lendlathe busyDesk() {
+        Lendlathe desk = Desks.with(2, 10, 2);
+        desk.setRate(0, 3);
+        desk.book(0, 0, 1, 0, 60, 'a');
+        desk.book(1, 1, 1, 70, 60, 'b');
+        desk.await(1, 0, 1, 30, 60, 'b');
+        desk.book(1, 0, 0, 30, 60, 'b');
+        desk.deliver(0, 1000);
+        desk.cut(0, 0, 100);
+        desk.endDay();
+        desk.breakDown(0, 100);
+        desk.pay(0, 10);
+        return desk;
+    }
+
+    private static void soundAtFirst() {
+        Expect.equal("a new desk", true, new Lendlathe().isSound());
+        Lendlathe desk = busyDesk();
+        Expect.equal("a busy desk", true, desk.isSound());
+        desk.cancel(0);
+        Expect.equal("the one that waited", 'w', desk.stateOf(2));
+        desk.cancel(1);
+        Expect.equal("the one that waited", 'b', desk.stateOf(2));
+        Expect.equal("after cancelling", true, desk.isSound());
+    }
+
+    private static void lostInduction() throws ReflectiveOperationException {
+        Lendlathe desk = busyDesk();
+        int[] days = (int[]) get(item(desk, "members", 0), "lastDays");
+        days[0] = -1;
+        Expect.equal("a booked entry without induction", false, desk.isSound());
+    }
+
+    private static void membersOverlap() throws ReflectiveOperationException {
+        Lendlathe desk = busyDesk();
+        set(item(desk, "allEntries", 1), "member", item(desk, "members", 0));
+        Expect.equal("entries of a member that do not overlap", true, desk.isSound());
+        set(item(desk, "allEntries", 1), "start", 59);
+        set(item(desk, "allEntries", 1), "end", 119);
+        Expect.equal("entries of a member that overlap", false, desk.isSound());
+    }
+
+    private static void machinesOverlap() throws ReflectiveOperationException {
+        Lendlathe desk = busyDesk();
+        set(item(desk, "allEntries", 1), "start", 59);
+        set(item(desk, "allEntries", 1), "end", 119);
+        Expect.equal("entries of two machines", true, desk.isSound());
+        set(item(desk, "allEntries", 1), "machine", item(desk, "machines", 0));
+        Expect.equal("entries of a machine", false, desk.isSound());
+    }
+
+    private static void forgottenWaiting() throws ReflectiveOperationException {
+        Lendlathe desk = busyDesk();
+        set(item(desk, "allEntries", 2), "start", 200);
+        Expect.equal("a waiting entry that can be booked", false, desk.isSound());
+    }
+
+    private static void wrongBar() throws ReflectiveOperationException {
+        Lendlathe desk = busyDesk();
+        set(item(desk, "bars", 0), "free", 896);
+        Expect.equal("freeOf", 896, desk.freeOf(0));
+        Expect.equal("freeByCuts", 897, desk.freeByCuts(0));
+        Expect.equal("they differ", false, desk.isSound());
+    }
+
+    private static void wrongDebt() throws ReflectiveOperationException {
+        Lendlathe desk = busyDesk();
+        Expect.equal("owes", 280, desk.owes(1));
+        set(item(desk, "members", 1), "owed", 281);
+        Expect.equal("owes", 281, desk.owes(1));
+        Expect.equal("owesByEntries", 280, desk.owesByEntries(1));
+        Expect.equal("they differ", false, desk.isSound());
+    }
+
+    private static void wrongMinutes() throws ReflectiveOperationException {
+        Lendlathe desk = busyDesk();
+        set(item(desk, "allEntries", 1), "minutes", 61);
+        Expect.equal("usedMinutes", 61, desk.usedMinutes(1, 1));
+        Expect.equal("usedByMinutes", 60, desk.usedByMinutes(1, 1));
+        Expect.equal("they differ", false, desk.isSound());
+        Lendlathe last = busyDesk();
+        last.book(0, 1, 7, 0, 10, 'a');
+        set(item(last, "allEntries", 4), "minutes", 11);
+        Expect.equal("6 days later", false, last.isSound());
+    }
+
+    private static Object item(Lendlathe desk, String list, int number) throws ReflectiveOperationException {
+        return ((List<?>) get(desk, list)).get(number);
+    }
+
+    private static Object get(Object owner, String name) throws ReflectiveOperationException {
+        return open(owner, name).get(owner);
+    }
+
+    private static void set(Object owner, String name, Object value) throws ReflectiveOperationException {
+        open(owner, name).set(owner, value);
+    }
+
+    private static Field open(Object owner, String name) throws ReflectiveOperationException {
+        Field field = owner.getClass().getDeclaredField(name);
+        field.setAccessible(true);
+        return field;
+    }
+}
