@@ -23,7 +23,18 @@ final class Expect {
             if (e.getClass() != due) {
                 fail(call + " threw " + e.getClass().getSimpleName() + ", due is " + due.getSimpleName());
             }
+            if (!isThrownByCode(e)) {
+                fail(call + " was answered by an exception of the machine or the library: " + e);
+            }
         }
+    }
+
+    /** Whether the class itself threw it with a text of its own, not the machine or the library below it. */
+    static boolean isThrownByCode(Throwable e) {
+        StackTraceElement[] trace = e.getStackTrace();
+        // The machine leaves out the trace of an exception that it has thrown very often.
+        boolean isOurs = trace.length > 0 && trace[0].getClassName().startsWith("Lendlathe");
+        return isOurs && e.getMessage() != null && !e.getMessage().contains("by zero");
     }
 
     static void fail(String text) {

@@ -6,6 +6,7 @@ public final class InductionTest {
         addMember();
         day();
         addNeed();
+        addNeedOfCircles();
         addNeedCancels();
         addNeedFreesTime();
         induct();
@@ -91,6 +92,24 @@ public final class InductionTest {
         Expect.equal("addNeed(0, 3) again", false, desk.addNeed(0, 3));
         desk.addMember();
         Expect.equal("what threw changed nothing", -1, desk.induct(0, 3));
+    }
+
+    /** Every way round through all four kinds, in every order of them. */
+    private static void addNeedOfCircles() {
+        for (int code = 0; code < 256; code++) {
+            int[] kinds = {code & 3, code >> 2 & 3, code >> 4 & 3, code >> 6 & 3};
+            int seen = 1 << kinds[0] | 1 << kinds[1] | 1 << kinds[2] | 1 << kinds[3];
+            if (seen == 15) {
+                Lendlathe desk = new Lendlathe();
+                for (int i = 1; i < 4; i++) {
+                    Expect.equal("a step", true, desk.addNeed(kinds[i - 1], kinds[i]));
+                    int last = kinds[i];
+                    Expect.raises("back to the first", IllegalStateException.class,
+                            () -> desk.addNeed(last, kinds[0]));
+                }
+                Expect.equal("the first may need the last", true, desk.addNeed(kinds[0], kinds[3]));
+            }
+        }
     }
 
     private static void addNeedCancels() {

@@ -87,6 +87,9 @@ public final class RunsTest {
         try {
             return method.invoke(owner, values);
         } catch (InvocationTargetException e) {
+            if (owner instanceof Lendlathe && !Expect.isThrownByCode(e.getCause())) {
+                Expect.fail(method.getName() + " was answered by an exception of the machine: " + e.getCause());
+            }
             return e.getCause().getClass();
         }
     }

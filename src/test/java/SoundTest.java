@@ -15,6 +15,9 @@ public final class SoundTest {
         wrongBar();
         wrongDebt();
         wrongMinutes();
+        wrongBarOfEach();
+        wrongDebtOfEachMember();
+        wrongMinutesOfEachMachine();
         Expect.end();
     }
 
@@ -91,6 +94,36 @@ public final class SoundTest {
         Expect.equal("owes", 281, desk.owes(1));
         Expect.equal("owesByEntries", 280, desk.owesByEntries(1));
         Expect.equal("they differ", false, desk.isSound());
+    }
+
+    private static void wrongDebtOfEachMember() throws ReflectiveOperationException {
+        for (int member = 0; member < 10; member++) {
+            Lendlathe desk = Desks.with(0, 0, 10);
+            set(item(desk, "members", member), "owed", 1);
+            Expect.equal("owes of member " + member, false, desk.isSound());
+        }
+    }
+
+    private static void wrongMinutesOfEachMachine() throws ReflectiveOperationException {
+        for (int machine = 0; machine < 6; machine++) {
+            for (int day = 0; day < 7; day++) {
+                Lendlathe desk = Desks.with(6, 0, 1);
+                desk.book(0, machine, day, 0, 10, 'a');
+                set(item(desk, "allEntries", 0), "minutes", 11);
+                Expect.equal("minutes of machine " + machine + " on day " + day, false, desk.isSound());
+            }
+        }
+    }
+
+    private static void wrongBarOfEach() throws ReflectiveOperationException {
+        for (int bar = 0; bar < 30; bar++) {
+            Lendlathe desk = new Lendlathe();
+            for (int i = 0; i < 30; i++) {
+                desk.deliver(0, 10);
+            }
+            set(item(desk, "bars", bar), "free", 9);
+            Expect.equal("bar " + bar, false, desk.isSound());
+        }
     }
 
     private static void wrongMinutes() throws ReflectiveOperationException {

@@ -63,6 +63,10 @@ public final class TariffTest {
         Expect.raises("percent -1", range, () -> desk.addDiscount(0, -1));
         Expect.raises("percent 101", range, () -> desk.addDiscount(0, 101));
         Expect.equal("what threw changed nothing", 1, desk.setRate(0, 0));
+        Expect.equal("fee 0", 2, desk.addFee(1, 0));
+        Expect.equal("most 0", 3, desk.addCap(1, 0));
+        Expect.equal("from 0", 4, desk.addDouble(1, 0));
+        Expect.equal("percent 0", 5, desk.addDiscount(1, 0));
         Expect.equal("fee 999", 2, desk.addFee(0, 999));
         Expect.equal("most 9999", 3, desk.addCap(0, 9999));
         Expect.equal("from 240", 4, desk.addDouble(0, 240));
