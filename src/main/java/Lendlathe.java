@@ -15,6 +15,10 @@ public final class Lendlathe {
     private static final int MOST_SETUP = 30;
     private static final int MOST_LENGTH = 5000;
     private static final int MOST_PRICE = 99;
+    private static final int MOST_RATE = 99;
+    private static final int MOST_FEE = 999;
+    private static final int MOST_CAP = 9999;
+    private static final int MOST_PERCENT = 100;
     private static final int MOST_COST = 100000;
     private static final int MOST_PAYMENT = 1000000;
     private static final int MOST_PAID = 1000000000;
@@ -240,7 +244,7 @@ public final class Lendlathe {
         requireRange(day, 0, today + DAYS_AHEAD);
         int sum = 0;
         Entry before = null;
-        for (int i = where.placeOf(day, 0); where.hasOnDay(i, day); i++) {
+        for (int i = where.placeOf(day, 0); i < where.held.size() && where.held.get(i).day == day; i++) {
             Entry entry = where.held.get(i);
             if (before != null) {
                 sum += where.setupBetween(before.work, entry.work);
@@ -339,7 +343,7 @@ public final class Lendlathe {
 
     public int setRate(int kind, int rate) throws IllegalArgumentException {
         Kind of = kindAt(kind);
-        requireRange(rate, 0, 99);
+        requireRange(rate, 0, MOST_RATE);
         int layers = of.tariff.height;
         of.tariff = new Layer(RATE, rate, null);
         return layers;
@@ -347,13 +351,13 @@ public final class Lendlathe {
 
     public int addFee(int kind, int fee) throws IllegalArgumentException, IllegalStateException {
         Kind of = kindAt(kind);
-        requireRange(fee, 0, 999);
+        requireRange(fee, 0, MOST_FEE);
         return addLayer(of, FEE, fee);
     }
 
     public int addCap(int kind, int most) throws IllegalArgumentException, IllegalStateException {
         Kind of = kindAt(kind);
-        requireRange(most, 0, 9999);
+        requireRange(most, 0, MOST_CAP);
         return addLayer(of, CAP, most);
     }
 
@@ -365,7 +369,7 @@ public final class Lendlathe {
 
     public int addDiscount(int kind, int percent) throws IllegalArgumentException, IllegalStateException {
         Kind of = kindAt(kind);
-        requireRange(percent, 0, 100);
+        requireRange(percent, 0, MOST_PERCENT);
         return addLayer(of, DISCOUNT, percent);
     }
 
@@ -610,16 +614,16 @@ public final class Lendlathe {
         int end = start + minutes;
         Entry before = null;
         Entry after = null;
-        for (int i = place; machine.hasOnDay(i, day) && after == null; i++) {
+        for (int i = place; i < machine.held.size() && machine.held.get(i).day == day; i++) {
             Entry entry = machine.held.get(i);
             if (entry.overlaps(day, start, end)) {
                 return false;
             }
             if (entry.start >= end) {
                 after = entry;
-            } else {
-                before = entry;
+                break;
             }
+            before = entry;
         }
         return (before == null || start - before.end >= machine.setupBetween(before.work, work))
                 && (after == null || after.start - end >= machine.setupBetween(work, after.work));
@@ -630,6 +634,7 @@ public final class Lendlathe {
         entry.machine.hold(entry);
     }
 
+    // Each turn looks from the lowest number on again, since the entry that was just booked took time.
     private void bookWaiting() {
         Entry next = firstToBook();
         for (int turn = 0; turn < MOST_ENTRIES && next != null; turn++) {
@@ -671,7 +676,7 @@ public final class Lendlathe {
 
     private static char letterOfMinute(Machine machine, int place, int day, int minute) {
         Entry before = null;
-        for (int i = place; machine.hasOnDay(i, day); i++) {
+        for (int i = place; i < machine.held.size() && machine.held.get(i).day == day; i++) {
             Entry entry = machine.held.get(i);
             if (minute < entry.start) {
                 boolean isSetup = before != null
@@ -688,7 +693,7 @@ public final class Lendlathe {
 
     private static int addLengths(Machine machine, int day) {
         int sum = 0;
-        for (int i = machine.placeOf(day, 0); machine.hasOnDay(i, day); i++) {
+        for (int i = machine.placeOf(day, 0); i < machine.held.size() && machine.held.get(i).day == day; i++) {
             sum += machine.held.get(i).minutes;
         }
         return sum;
@@ -707,7 +712,7 @@ public final class Lendlathe {
 
     private static int firstStartInGaps(Machine machine, int day, int minutes, char work) {
         int start = 0;
-        for (int i = machine.placeOf(day, 0); machine.hasOnDay(i, day); i++) {
+        for (int i = machine.placeOf(day, 0); i < machine.held.size() && machine.held.get(i).day == day; i++) {
             Entry entry = machine.held.get(i);
             int setup = machine.setupBetween(work, entry.work);
             if (start + minutes + setup <= entry.start) {
@@ -1009,10 +1014,6 @@ public final class Lendlathe {
 
         private static boolean isBefore(Entry entry, int day, int start) {
             return entry.day < day || entry.day == day && entry.start < start;
-        }
-
-        boolean hasOnDay(int place, int day) {
-            return place >= 0 && place < held.size() && held.get(place).day == day;
         }
 
         void hold(Entry entry) {

@@ -8,6 +8,7 @@ public final class BillTest {
         breakDownOwnMachineOnly();
         sharesWithRests();
         sharesOfEqualRests();
+        shareOfOneMinute();
         sharesOfGreatCosts();
         shareOf();
         pay();
@@ -106,6 +107,15 @@ public final class BillTest {
             }
             Expect.equal("the whole cost", cost, sum);
         }
+    }
+
+    private static void shareOfOneMinute() {
+        Lendlathe desk = Desks.with(1, 0, 2);
+        desk.book(1, 0, 0, 479, 1, 'a');
+        desk.endDay();
+        Expect.equal("one minute", 1, desk.breakDown(0, 100000));
+        Expect.equal("all of it", 100000, desk.shareOf(0, 1));
+        Expect.equal("none of it", 0, desk.shareOf(0, 0));
     }
 
     private static void sharesOfGreatCosts() {
@@ -216,9 +226,10 @@ public final class BillTest {
         desk.cut(0, 0, 100);
         desk.cut(0, 0, 101);
         desk.cut(0, 1, 4997);
+        desk.cut(0, 0, 43);
         desk.endDay();
-        Expect.equal("each cut is rounded up for itself", 1 + 7 + 8 + 4948, desk.dueOf(0));
-        Expect.equal("owes", 4964, desk.owes(0));
+        Expect.equal("each cut is rounded up for itself", 1 + 7 + 8 + 4948 + 4, desk.dueOf(0));
+        Expect.equal("owes", 4968, desk.owes(0));
     }
 
     private static void duesOfThatDay() {

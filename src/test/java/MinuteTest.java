@@ -111,6 +111,8 @@ public final class MinuteTest {
         Expect.equal("the same work", 14, desk.setupMinutes(0, 0));
         desk.book(0, 0, 1, 0, 10, 'a');
         Expect.equal("the next day", 0, desk.setupMinutes(0, 1));
+        desk.book(0, 0, 1, 17, 10, 'b');
+        Expect.equal("after an entry from minute 0 on", 7, desk.setupMinutes(0, 1));
         Expect.equal("the other machine", 0, desk.setupMinutes(1, 0));
         desk.cancel(2);
         desk.cancel(3);
@@ -176,6 +178,9 @@ public final class MinuteTest {
         bothFirst(desk, 130, 0, 21, 'c');
         desk.book(0, 0, 0, 240, 240, 'a');
         bothFirst(desk, 130, 0, 90, 'c');
+        desk.book(0, 0, 1, 0, 10, 'a');
+        bothFirst(desk, 10, 1, 240, 'a');
+        bothFirst(desk, 30, 1, 240, 'b');
         noFirst(desk, 0, 91, 'c');
         bothFirst(desk, 110, 0, 110, 'b');
         noFirst(desk, 0, 111, 'b');
