@@ -4,8 +4,18 @@ import java.util.function.Supplier;
 final class Expect {
     private static int checked = 0;
     private static int wrong = 0;
+    private static String topic = "";
 
     private Expect() {
+    }
+
+    /** What the checks that follow are about: it is printed before each of their failures. */
+    static void about(String text) {
+        topic = text.isEmpty() ? "" : text + ": ";
+    }
+
+    static int checked() {
+        return checked;
     }
 
     static void equal(String call, Object due, Object got) {
@@ -39,7 +49,7 @@ final class Expect {
 
     static void fail(String text) {
         wrong++;
-        System.out.println("  " + text);
+        System.out.println("  " + topic + text);
     }
 
     static void end() {

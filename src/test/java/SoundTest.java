@@ -7,18 +7,25 @@ import java.util.List;
  */
 public final class SoundTest {
     public static void main(String[] args) throws ReflectiveOperationException {
+        spoilEachThing();
+        Expect.end();
+    }
+
+    static void spoilEachThing() throws ReflectiveOperationException {
         soundAtFirst();
         lostInduction();
+        lostNeed();
         membersOverlap();
         machinesOverlap();
+        onlyBookedEntriesOverlap();
         forgottenWaiting();
         wrongBar();
         wrongDebt();
         wrongMinutes();
+        wrongMinutesOfPastDays();
         wrongBarOfEach();
         wrongDebtOfEachMember();
         wrongMinutesOfEachMachine();
-        Expect.end();
     }
 
     /** Entry 0 and 1 are booked, 2 waits, 3 is done; there is a bar with a cut, a breakage and a payment. */
@@ -55,6 +62,20 @@ public final class SoundTest {
         Expect.equal("a booked entry without induction", false, desk.isSound());
     }
 
+    private static void lostNeed() throws ReflectiveOperationException {
+        Lendlathe desk = Desks.with(1, 0, 1);
+        desk.induct(0, 1);
+        desk.addNeed(0, 1);
+        desk.book(0, 0, 5, 0, 60, 'a');
+        int[] days = (int[]) get(item(desk, "members", 0), "lastDays");
+        Desks.endDays(desk, 4);
+        Expect.equal("with both inductions", true, desk.isSound());
+        days[1] = -1;
+        Expect.equal("a booked entry without the induction that its own one needs", false, desk.isSound());
+        desk.cancel(0);
+        Expect.equal("a cancelled entry needs none", true, desk.isSound());
+    }
+
     private static void membersOverlap() throws ReflectiveOperationException {
         Lendlathe desk = busyDesk();
         set(item(desk, "allEntries", 1), "member", item(desk, "members", 0));
@@ -71,6 +92,24 @@ public final class SoundTest {
         Expect.equal("entries of two machines", true, desk.isSound());
         set(item(desk, "allEntries", 1), "machine", item(desk, "machines", 0));
         Expect.equal("entries of a machine", false, desk.isSound());
+    }
+
+    /** The booked entries of machine 0 are for 0 to 59 of day 1; entry 1 is moved beside entry 0, and over it. */
+    private static void onlyBookedEntriesOverlap() throws ReflectiveOperationException {
+        Lendlathe desk = busyDesk();
+        Object entry = item(desk, "allEntries", 1);
+        set(entry, "machine", item(desk, "machines", 0));
+        set(entry, "start", 60);
+        set(entry, "end", 120);
+        Expect.equal("entries that touch", true, desk.isSound());
+        set(entry, "start", 0);
+        set(entry, "end", 60);
+        Expect.equal("entries with the same minutes", false, desk.isSound());
+        set(entry, "day", 2);
+        Expect.equal("the same minutes of another day", true, desk.isSound());
+        set(entry, "day", 1);
+        set(entry, "state", 'c');
+        Expect.equal("a cancelled entry", true, desk.isSound());
     }
 
     private static void forgottenWaiting() throws ReflectiveOperationException {
@@ -136,6 +175,15 @@ public final class SoundTest {
         last.book(0, 1, 7, 0, 10, 'a');
         set(item(last, "allEntries", 4), "minutes", 11);
         Expect.equal("6 days later", false, last.isSound());
+    }
+
+    /** Only the days from the present one to 6 days later are compared. */
+    private static void wrongMinutesOfPastDays() throws ReflectiveOperationException {
+        Lendlathe desk = busyDesk();
+        set(item(desk, "allEntries", 3), "minutes", 61);
+        Expect.equal("usedMinutes", 61, desk.usedMinutes(0, 0));
+        Expect.equal("usedByMinutes", 60, desk.usedByMinutes(0, 0));
+        Expect.equal("they differ on a past day", true, desk.isSound());
     }
 
     private static Object item(Lendlathe desk, String list, int number) throws ReflectiveOperationException {
