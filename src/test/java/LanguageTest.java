@@ -1,4 +1,7 @@
 import java.io.IOException;
+import java.lang.reflect.Field;
+import java.lang.reflect.Method;
+import java.lang.reflect.Modifier;
 import java.nio.file.Files;
 import java.nio.file.Path;
 import java.util.TreeSet;
@@ -25,6 +28,7 @@ public final class LanguageTest {
         exceptions(code);
         fields(code);
         methodLengths(source);
+        sizes();
         Expect.equal("signs beyond 127", true, source.chars().allMatch(sign -> sign < 128));
         Expect.end();
     }
@@ -51,6 +55,28 @@ public final class LanguageTest {
         Matcher matcher = Pattern.compile("\\bstatic\\b[^;{(]*[;=]").matcher(code);
         while (matcher.find()) {
             Expect.equal(matcher.group(), true, matcher.group().startsWith("static final "));
+        }
+    }
+
+    private static void sizes() {
+        Class<?>[] inside = Lendlathe.class.getDeclaredClasses();
+        Expect.equal("the classes are few", true, inside.length + 1 <= 12);
+        size(Lendlathe.class);
+        for (Class<?> type : inside) {
+            Expect.equal(type.getName() + " is static", true, Modifier.isStatic(type.getModifiers()));
+            Expect.equal(type.getName() + " is not public", false, Modifier.isPublic(type.getModifiers()));
+            size(type);
+        }
+    }
+
+    private static void size(Class<?> type) {
+        int fields = 0;
+        for (Field field : type.getDeclaredFields()) {
+            fields += Modifier.isStatic(field.getModifiers()) ? 0 : 1;
+        }
+        Expect.equal("the fields of " + type.getName() + " are few", true, fields <= 20);
+        for (Method method : type.getDeclaredMethods()) {
+            Expect.equal("the parameters of " + method.getName() + " are few", true, method.getParameterCount() <= 7);
         }
     }
 
